@@ -842,8 +842,8 @@ public final class PushSaidDoor {
     private static final class Scale {
         int push = 1;
         int pull = 1;
-        private int above = 0;
-        private int below = 1;
+        int above = 0;
+        int below = 1;
 
         void weighWalker(House house, Walker who, int d, int e) {
             weighStranger(house, d, e);
