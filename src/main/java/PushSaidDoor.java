@@ -262,6 +262,7 @@ public final class PushSaidDoor {
         if (walker.room == r) {
             return what == 0 ? 0 : NONE;
         }
+        wayFinder.priceSides(house, walker);
         wayFinder.find(house, walker, r);
         if (wayFinder.firstDoor < 0) {
             return NONE;
@@ -846,9 +847,9 @@ public final class PushSaidDoor {
         int below = 1;
 
         void weighWalker(House house, Walker who, int d, int e) {
-            weighStranger(house, d, e);
-            add(who.last, house.doing(LAST_DOES));
             int mine = house.signsOn(d, e);
+            weighSigns(house, house.wantOn(d, e), mine, house.signsOn(d, 1 - e));
+            add(who.last, house.doing(LAST_DOES));
             int each = house.doing(TIME_DOES);
             for (int side = 0; side < 2 * house.doors; side++) {
                 int times = Cells.get(who.went, side);
@@ -869,17 +870,6 @@ public final class PushSaidDoor {
         void weighSigns(House house, int want, int mine, int other) {
             push = 1;
             pull = 1;
-            addSigns(house, want, mine, other);
-        }
-
-        /** What SIGNS alone do, without the 1 of each. */
-        void weighBareSigns(House house, int want, int mine, int other) {
-            push = 0;
-            pull = 0;
-            addSigns(house, want, mine, other);
-        }
-
-        private void addSigns(House house, int want, int mine, int other) {
             int word = house.doing(WORD_DOES);
             if ((mine & GRIP) != 0) {
                 add(PULL, house.doing(GRIP_DOES));
@@ -1048,8 +1038,8 @@ public final class PushSaidDoor {
         int fewest = TOO_MANY;
         int firstDoor = -1;
 
+        /** By the prices that were put up before. */
         void find(House house, Walker who, int goal) {
-            priceSides(house, who);
             startAt(goal, shorter);
             for (int doors = 1; doors < MOST_ON_WAY; doors++) {
                 startAt(goal, longer);
@@ -1059,7 +1049,7 @@ public final class PushSaidDoor {
             chooseFirst(house, who);
         }
 
-        private void priceSides(House house, Walker who) {
+        void priceSides(House house, Walker who) {
             int lastNow = who.last;
             for (int side = 0; side < 2 * house.doors; side++) {
                 for (int last = 0; last < LASTS; last++) {
@@ -1201,9 +1191,9 @@ public final class PushSaidDoor {
             for (int side = 0; side < 2 * house.doors; side++) {
                 int d = side >> 1;
                 int e = side & 1;
-                scale.weighBareSigns(house, house.wantOn(d, e),
-                        house.signsOn(d, e), house.signsOn(d, 1 - e));
-                int less = Math.min(scale.push, scale.pull);
+                scale.weighStranger(house, d, e);
+                // SIGNS alone did it, without the 1 that each WEIGHS by itself
+                int less = Math.min(scale.push, scale.pull) - 1;
                 if (less > 0) {
                     clashes++;
                 }
