@@ -3,6 +3,9 @@ final class Due {
     static final int BAD = -1, NO = -2, FULL = -3, NONE = -4;
     private static int asked = 0;
     private static int wrong = 0;
+    private static String sentence = "";
+    private static int askedAhead = 0;
+    private static int wrongOfSentence = 0;
 
     private Due() {
     }
@@ -11,13 +14,31 @@ final class Due {
         asked++;
         if (got != want) {
             wrong++;
-            if (wrong <= 50) {
-                System.out.println(call + " answered " + got + ", due is " + want);
+            wrongOfSentence++;
+            if (wrong <= 50 || wrongOfSentence == 1) {
+                String told = sentence.isEmpty() ? "" : "\"" + sentence + "\": ";
+                System.out.println(told + call + " answered " + got + ", due is " + want);
             }
         }
     }
 
+    /** From here on the answers are asked for these words of the document; none asked is a failure. */
+    static void sentence(String words) {
+        endSentence();
+        sentence = words;
+        askedAhead = asked;
+        wrongOfSentence = 0;
+    }
+
+    private static void endSentence() {
+        if (!sentence.isEmpty() && asked == askedAhead) {
+            wrong++;
+            System.out.println("\"" + sentence + "\": nothing was asked");
+        }
+    }
+
     static void end() {
+        endSentence();
         System.out.println(asked + " answers looked at, " + wrong + " not as due");
         if (wrong != 0 || asked == 0) {
             System.exit(1);

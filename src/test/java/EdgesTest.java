@@ -5,16 +5,16 @@ public final class EdgesTest {
         Integer.MAX_VALUE};
 
     public static void main(String[] args) {
-        PushSaidDoor x = Due.house("r8;d0,1,2,2;d1,0,0,1;s0,0,63;p0,0;p1,1;", 8);
-        x.go(0, 0);
-        x.tell(0);
-        x.film(0, 0, 1, 2);
-        x.keep();
-        long before = state(x);
         for (int far : FAR) {
+            PushSaidDoor x = Due.house("r8;d0,1,2,2;d1,0,0,1;s0,0,63;p0,0;p1,1;", 8);
+            x.go(0, 0);
+            x.tell(0);
+            x.film(0, 0, 1, 2);
+            x.keep();
+            long before = state(x);
             badInEachPlace(x, far);
+            Due.is("nothing changed", state(x), before);
         }
-        Due.is("nothing changed", state(x), before);
         emptyAndFullText();
         Due.end();
     }

@@ -33,16 +33,19 @@ public final class ModelTest {
         }
         retell(run, x, m, text());
         Due.is(run + " lay", x.lay(), m.lay());
-        boolean others = upTo(5) == 0;
-        for (int calls = 0; calls < 250; calls++) {
+        boolean much = upTo(2) == 0;
+        boolean others = !much && upTo(3) == 0;
+        // no object is used for more than 512 calls, and a TEXT takes 200 of them
+        int most = much ? 140 : others ? 90 : 280;
+        for (int calls = 0; calls < most; calls++) {
             callAny(run, x, m);
-            if (others && calls == 100) {
+            if (others && calls == 40) {
                 retell(run, x, m, spoiltText());
                 Due.is(run + " fault", x.fault(), m.fault());
                 Due.is(run + " lay", x.lay(), m.lay());
             }
         }
-        if (upTo(2) == 0) {
+        if (much) {
             walkMuch(run, x, m);
         }
     }
