@@ -380,7 +380,7 @@ public final class PushSaidDoor {
         crowds.noDoors();
         for (int k = 0; k < house.doors; k++) {
             if (byAll || k == d) {
-                crowds.addDoor(house, stranger, k, house.sideIn(k, r));
+                crowds.useDoor(house, stranger, k, house.sideIn(k, r));
             }
         }
         return crowds.secondsFor(n);
@@ -1114,7 +1114,7 @@ public final class PushSaidDoor {
         int clashes = 0;
         int worstClash = 0;
 
-        boolean isMostlyWrong(House house, int d, int e) {
+        boolean isMostlyWrongAt(House house, int d, int e) {
             scale.weighStranger(house, d, e);
             return scale.isMostlyWrong(house.wantOn(d, e));
         }
@@ -1221,11 +1221,11 @@ public final class PushSaidDoor {
             doors = 0;
         }
 
-        void addDoor(House house, Stranger stranger, int d, int e) {
+        void useDoor(House house, Stranger stranger, int d, int e) {
             if (e < 0) {
                 return;
             }
-            Cells.set(firstOut, doors, stranger.isMostlyWrong(house, d, e) ? 4 : 1);
+            Cells.set(firstOut, doors, stranger.isMostlyWrongAt(house, d, e) ? 4 : 1);
             Cells.set(leaves, doors, house.ofDoor(d, DOOR_LEAVES));
             Cells.set(wants, doors, house.wantOn(d, e));
             doors++;

@@ -26,6 +26,7 @@ public final class BoundsOfDaysTest {
         fitsEachFilm();
         fitsCut();
         fitsAllElseAsItIs();
+        fitsThroughGlassOfEitherSide();
         fitsOnlyByAGrip();
         fitsNone();
         fitsInBounds();
@@ -351,6 +352,25 @@ public final class BoundsOfDaysTest {
         Due.is("of STRANGERS", x.fits(0, 1), 8);
         x.go(0, 0);
         Due.is("of STRANGERS", x.fits(0, 0), 1);
+    }
+
+    private static void fitsThroughGlassOfEitherSide() {
+        Due.sentence("all else as it is (FITS and DAY through GLASS, of both SIDES)");
+        for (int d = 0; d < 8; d++) {
+            for (int e = 0; e < 2; e++) {
+                PushSaidDoor x = Due.house(EIGHT_PULLS + "w0,0,8,0,0,0;p0,0;", 2);
+                x.put(d, e, 33);
+                x.put(d, 1 - e, 4);
+                x.film(d, e, 1, 2);
+                // push 1 and 8 by 2, pull 1 and G
+                Due.is("how many", x.fits(0, 0), 1);
+                Due.is("the lowest", x.fits(0, 1), 4);
+                // push 5 of 6: DRAW 0 and 2592, a pull, then 0 by 6, a pull, too; z 3: 3471 by 6 is 3
+                int wanted = x.door(d, 6 + e);
+                Due.is("pulls of two", x.day(0, 2, d, e, 1), 2);
+                Due.is("WRONG of two", x.day(0, 2, d, e, 0), wanted == 0 ? 2 : 0);
+            }
+        }
     }
 
     private static void fitsOnlyByAGrip() {

@@ -46,6 +46,8 @@ public final class BoundsOfHandsTest {
         whatChangedNothingIsUndoneToo();
         undoneAtNinetyNine();
         whatWasRefusedIsNotUndone();
+        ofTheHighestDoorAndPerson();
+        undoneOfTheHighestDoorAndPerson();
         Due.end();
     }
 
@@ -345,6 +347,7 @@ public final class BoundsOfHandsTest {
         wrongIs(x, 0, 0, 0, 1, 200);
         x.go(0, 0);
         wrongIs(x, 0, 0, 1, 1, 200);
+        Due.is("at the other one", x.times(0, 0, 1), 99);
     }
 
     private static void oneLeafHasNoBolt() {
@@ -661,5 +664,103 @@ public final class BoundsOfHandsTest {
         Due.is("only the put", x.count(5), 1);
         Due.is("UNDONE", x.undo(), 0);
         Due.is("SIGNS", x.door(0, 4), 9);
+    }
+
+    private static PushSaidDoor eightDoorsFivePersons() {
+        return Due.house("r8;d0,7,0,2;d0,7,0,2;d0,7,0,2;d0,7,0,2;d0,7,0,2;d0,7,0,2;d0,7,0,2;d0,7,0,2;"
+                + "w0,0,0,0,0,1;p0,0;p0,0;p0,0;p0,0;p0,0;", 8);
+    }
+
+    private static void ofTheHighestDoorAndPerson() {
+        Due.sentence("DOORS: 8 at most, PERSONS: 5 at most (each one's times and WRONG are his own)");
+        for (int i = 0; i < 5; i++) {
+            for (int d = 0; d < 8; d++) {
+                PushSaidDoor x = eightDoorsFivePersons();
+                x.put(d, 0, 1);
+                x.put(d, 1, 2);
+                x.go(i, d);
+                x.go(i, d);
+                x.go(i, d);
+                int other = d < 7 ? 7 : 0;
+                for (int j = 0; j < 5; j++) {
+                    Due.is("times of " + j + " from SIDE 0", x.times(j, d, 0), i == j ? 2 : 0);
+                    Due.is("times of " + j + " from SIDE 1", x.times(j, d, 1), i == j ? 1 : 0);
+                    Due.is("times of " + j + " by another one", x.times(j, other, 0), 0);
+                    weighs(x, j, d, 0, i == j ? 3 : 1, 1);
+                    weighs(x, j, d, 1, 1, i == j ? 2 : 1);
+                    weighs(x, j, other, 0, 1, 1);
+                    // 1 by 4 and 1 by 5; 1 by 2 and 1 by 2
+                    wrongIs(x, j, d, 0, i == j ? 9 : 1, i == j ? 20 : 1);
+                    wrongIs(x, j, other, 0, 1, 1);
+                }
+                x.put(other, 0, 1);
+                weighs(x, i, other, 0, 3, 1);
+                x.put(other, 0, 2);
+                weighs(x, i, other, 0, 1, 2);
+            }
+        }
+    }
+
+    private static void undoneOfTheHighestDoorAndPerson() {
+        Due.sentence("UNDONE is the latest (of whichever DOOR, SIDE, PERSON)");
+        for (int d = 0; d < 8; d++) {
+            PushSaidDoor x = eightDoorsFivePersons();
+            int i = d % 5;
+            // eight of another kind ahead, whose places are used again
+            for (int k = 0; k < 8; k++) {
+                if (k < 4) {
+                    x.hang(k);
+                } else {
+                    x.go(k - 4, k);
+                }
+            }
+            for (int k = 0; k < 4; k++) {
+                x.go(i, d);
+            }
+            x.put(d, 0, 5);
+            x.put(d, 1, 6);
+            x.hang(d);
+            x.go((i + 1) % 5, d);
+            int[] before = allOf(x);
+            Due.is("SIDE 1", x.put(d, 1, 9), 6);
+            Due.is("undo", x.undo(), 7);
+            same("as before", allOf(x), before);
+            Due.is("the other go", x.undo(), 6);
+            Due.is("W", x.door(d, 2), d < 4 ? 0 : 1);
+            Due.is("the hang", x.undo(), 5);
+            Due.is("W", x.door(d, 2), d < 4 ? 1 : 0);
+            Due.is("SIGNS of SIDE 1", x.door(d, 5), 6);
+            Due.is("the put", x.undo(), 4);
+            Due.is("SIGNS of SIDE 1", x.door(d, 5), 0);
+            Due.is("SIGNS of SIDE 0", x.door(d, 4), 5);
+            Due.is("the put", x.undo(), 3);
+            Due.is("SIGNS of SIDE 0", x.door(d, 4), 0);
+            int all = x.times(i, d, 0) + x.times(i, d, 1);
+            for (int k = 1; k <= 3; k++) {
+                Due.is("a go", x.undo(), 3 - k);
+                Due.is("times", x.times(i, d, 0) + x.times(i, d, 1), all - k);
+            }
+            Due.is("no more", x.undo(), NO);
+        }
+    }
+
+    private static int[] allOf(PushSaidDoor x) {
+        int[] all = new int[24 + 10 + 16];
+        for (int k = 0; k < 24; k++) {
+            all[k] = x.door(k / 3, k % 3 < 1 ? 2 : 3 + k % 3);
+        }
+        for (int k = 0; k < 10; k++) {
+            all[24 + k] = x.person(k / 2, k % 2 * 2);
+        }
+        for (int k = 0; k < 16; k++) {
+            all[34 + k] = x.times(k % 5, k / 2, k % 2);
+        }
+        return all;
+    }
+
+    private static void same(String call, int[] got, int[] due) {
+        for (int k = 0; k < due.length; k++) {
+            Due.is(call + ", " + k, got[k], due[k]);
+        }
     }
 }

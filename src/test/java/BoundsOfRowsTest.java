@@ -22,6 +22,7 @@ public final class BoundsOfRowsTest {
         wayByTimesAsNow();
         wayWhereHeIs();
         wayNone();
+        wayWithATray();
         wayTheLowestDoorFirst();
         wayInBounds();
         learntAtOnce();
@@ -31,16 +32,19 @@ public final class BoundsOfRowsTest {
         learntInPlaceOfThoseSoFar();
         learntWithoutLastOne();
         learntWithTheOtherSideAsItIs();
+        learntAtEachDoor();
         learntTrayIsNoMatter();
         learntInBounds();
         spoiltByTenTimesMore();
         spoiltNinetyNineAtMost();
         spoiltNoughtAtLeast();
         spoiltTrayIsNoMatter();
+        spoiltByEachDoor();
         spoiltByAnotherDoor();
         spoiltInBounds();
         trayToTheSame();
         trayByFewDoors();
+        trayByManyWays();
         trayNone();
         trayInBounds();
         Due.end();
@@ -304,6 +308,34 @@ public final class BoundsOfRowsTest {
             Due.is("a TRAY and a push", x.way(2, 1, what), what);
         }
         Due.is("without TRAY", x.way(0, 2, 1), 0);
+        // whichever ROOM he can come to by a push, and whichever was asked for ahead
+        for (int to = 0; to < 5; to++) {
+            for (int from = 0; from < 5; from++) {
+                if (from != to) {
+                    PushSaidDoor y = Due.house("r6;d" + from + "," + to + ",0,1;p" + from + ",0;", 6);
+                    Due.is("no DOOR to 5", y.way(0, 5, 0), NONE);
+                    Due.is("way to " + to, y.way(0, to, 0), 500);
+                    Due.is("no DOOR to 5 behind that", y.way(0, 5, 0), NONE);
+                    Due.is("no DOOR to 5 behind that", y.way(0, 5, 1), NONE);
+                }
+            }
+        }
+    }
+
+    private static void wayWithATray() {
+        Due.sentence("WAY of a PERSON (With a TRAY one can not pull)");
+        // 0, 1, 2, 3 by three pushes (the last one of two LEAVES), from 3 to 1 by a push; back each is a pull
+        PushSaidDoor x = Due.house("r4;d0,1,0,1;d2,1,1,1;d2,3,0,2;d3,1,0,1;p0,1;p0,0;p3,1;", 4);
+        Due.is("by pushes", x.way(0, 3, 0), 500);
+        Due.is("by pushes first", x.way(0, 3, 1), 0);
+        Due.is("back to 1 by a push", x.way(2, 1, 0), 0);
+        Due.is("back to 1 by a push first", x.way(2, 1, 1), 3);
+        Due.is("on to 2", x.way(2, 2, 0), 0);
+        Due.is("not on to 0", x.way(2, 0, 0), NONE);
+        x.hang(0);
+        Due.is("on to 0", x.way(2, 0, 0), 0);
+        Due.is("but not from there", x.way(0, 3, 0), NONE);
+        Due.is("without TRAY", x.way(1, 3, 1), 0);
     }
 
     private static void wayTheLowestDoorFirst() {
@@ -412,6 +444,20 @@ public final class BoundsOfRowsTest {
         Due.is("of SIDE 1", x.learnt(0, 0, 1, 0), 97);
     }
 
+    private static void learntAtEachDoor() {
+        Due.sentence("a PERSON would have to have gone by a DOOR from a SIDE (each of them)");
+        PushSaidDoor x = Due.house("r2;d0,1,0,1;d0,1,0,1;d0,1,0,1;d0,1,0,1;d0,1,0,1;d0,1,0,1;d0,1,0,1;d0,1,0,1;"
+                + "w10,0,0,0,0,1;p0,0;p0,0;p0,0;p0,0;p0,0;", 2);
+        for (int d = 0; d < 8; d++) {
+            x.put(d, 0, 1 + 4 * d);
+            x.put(d, 1, 2 + 4 * d);
+        }
+        for (int d = 0; d < 8; d++) {
+            Due.is("89 by SIDE 0 of " + d, x.learnt(d % 5, d, 0, 10), 89);
+            Due.is("1 by SIDE 1 of " + d, x.learnt(d % 5, d, 1, 40), 1);
+        }
+    }
+
     private static void learntTrayIsNoMatter() {
         Due.sentence("(Of WRONG a TRAY is no matter in both: as if he had none.) LEARNT");
         PushSaidDoor x = Due.house("r2;d0,1,0,1;s0,0,1;s0,1,2;w10,10,0,0,0,1;p0,0;p0,1;p1,1;", 2);
@@ -489,6 +535,26 @@ public final class BoundsOfRowsTest {
         }
     }
 
+    private static void spoiltByEachDoor() {
+        Due.sentence("SPOILT .. by another DOOR from a SIDE (each of them, 99 at most)");
+        for (int g = 1; g < 8; g++) {
+            PushSaidDoor x = Due.house("r2;d0,1,0,1;d0,1,0,1;d0,1,0,1;d0,1,0,1;d0,1,0,1;d0,1,0,1;d0,1,0,1;d0,1,0,1;"
+                    + "w0,0,0,0,0,1;p0,0;", 2);
+            x.put(0, 1, 1);
+            x.put(g, 0, 2);
+            for (int k = 0; k < 190; k++) {
+                x.go(0, g);
+            }
+            // on SIDE 0 of DOOR 0 push 1, pull 1 and 95; 99 at most: 96 by 97 is 989, 100 by 101 is 990
+            Due.is("95 and 4 by SIDE 1 of " + g, x.spoilt(0, 0, 0, g, 1), 1);
+            Due.is("other SIGNS", x.spoilt(0, 0, 0, g, 0), 0);
+            int other = g < 7 ? 7 : 6;
+            // push 1, pull 106 by another one: 106 by 107
+            Due.is("10 by SIDE 1 of " + other, x.spoilt(0, 0, 0, other, 1), 1);
+            Due.is("at SIDE 1 of " + other + " by " + g, x.spoilt(0, other, 1, g, 1), 0);
+        }
+    }
+
     private static void spoiltByAnotherDoor() {
         Due.sentence("BAD (d and g alike, too)");
         PushSaidDoor x = Due.house("r2;d0,1,0,1;d0,1,1,1;p0,0;", 2);
@@ -530,6 +596,18 @@ public final class BoundsOfRowsTest {
         x.hang(7);
         Due.is("to 7 at once", x.tray(0, 7), 1);
         Due.is("to 0 no more", x.tray(7, 0), NONE);
+    }
+
+    private static void trayByManyWays() {
+        Due.sentence("by how few DOORS (of several ways)");
+        PushSaidDoor x = Due.house("r8;d0,1,0,1;d0,2,0,1;d0,3,0,1;d1,4,0,1;d2,5,0,1;d3,6,0,1;d6,7,0,1;d2,7,1,1;p0,0;", 8);
+        int[] few = {0, 1, 1, 1, 2, 2, 2, 3};
+        for (int room = 0; room < 8; room++) {
+            Due.is("to " + room, x.tray(0, room), few[room]);
+        }
+        x.hang(7);
+        Due.is("to 7 by 2", x.tray(0, 7), 2);
+        Due.is("not back", x.tray(7, 0), NONE);
     }
 
     private static void trayNone() {

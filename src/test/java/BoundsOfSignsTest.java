@@ -32,6 +32,7 @@ public final class BoundsOfSignsTest {
         clashWhatIsLessIsMost();
         clashOfSeveralTheLowest();
         clashByHingesAndGlass();
+        clashThroughGlassOfEitherSide();
         clashInBounds();
         worthOfNoneIsTwentyThousand();
         worthMoreAndLess();
@@ -388,6 +389,25 @@ public final class BoundsOfSignsTest {
         x.put(1, 1, 12);
         Due.is("both words, and through GLASS", x.clash(0), 2);
         Due.is("4 of 4 and 4", x.clash(1), 3);
+    }
+
+    private static void clashThroughGlassOfEitherSide() {
+        Due.sentence("GLASS to what each word on the other SIDE says (CLASH, CROWD, of both SIDES)");
+        for (int d = 0; d < 8; d++) {
+            for (int e = 0; e < 2; e++) {
+                PushSaidDoor x = Due.house("r2;d0,1,0,1;d0,1,0,1;d0,1,0,1;d0,1,0,1;d0,1,0,1;d0,1,0,1;d0,1,0,1;d0,1,0,1;p0,0;", 2);
+                x.put(d, e, 33);
+                x.put(d, 1 - e, 4);
+                Due.is("how many", x.clash(0), 1);
+                Due.is("which", x.clash(1), 2 * d + e);
+                x.put(d, e, 32);
+                x.put(d, 1 - e, e == 0 ? 8 : 4);
+                Due.is("none", x.clash(0), 0);
+                Due.is("the other word is late", x.crowd(1, e, d), 4);
+                x.put(d, 1 - e, e == 0 ? 4 : 8);
+                Due.is("the word that is so", x.crowd(1, e, d), 1);
+            }
+        }
     }
 
     private static void clashInBounds() {

@@ -211,6 +211,9 @@ public final class BoundsOfTextTest {
         Due.faultOf("r-8;", 0);
         Due.faultOf("r/;", 0);
         Due.faultOf("r:;", 0);
+        Due.faultOf("w:,0,0,0,0,0;", 0);
+        Due.faultOf("w0,0,0,0,0,1/;", 0);
+        Due.faultOf("w0,0,0,0,0,1:;", 0);
         for (String item : ITEMS) {
             for (int k = 1; k < item.length(); k += 2) {
                 String ahead = "r8;" + DOOR + item.substring(0, k);
@@ -292,6 +295,11 @@ public final class BoundsOfTextTest {
         Due.is("ROOMS", x.count(0), 3);
         Due.is("the highest one", x.tray(2, 2), 0);
         Due.is("none beyond", x.tray(3, 3), BAD);
+        PushSaidDoor y = Due.house("r8;" + DOOR + "p7,0;", 8);
+        Due.tell(y, "d0,3,0,1;");
+        Due.is("FAULT behind a house of 8", y.fault(), 0);
+        Due.tell(y, DOOR + "p2,0;");
+        Due.is("lay behind a house of 8", y.lay(), 3);
         Due.faultOf("d2,0,0,1;", NONE);
         Due.faultOf("d3,0,0,1;", 0);
     }

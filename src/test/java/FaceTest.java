@@ -5,8 +5,13 @@ import java.lang.reflect.Method;
 import java.lang.reflect.Modifier;
 import java.nio.file.Files;
 import java.nio.file.Path;
+import java.util.List;
+import java.util.Map;
 import java.util.Set;
+import java.util.TreeMap;
 import java.util.TreeSet;
+import java.util.regex.Matcher;
+import java.util.regex.Pattern;
 
 /** The face of the class, and the rules of LANGUAGE.md that can be seen from outside or from its words. */
 public final class FaceTest {
@@ -21,6 +26,7 @@ public final class FaceTest {
         constructors();
         classesInside();
         words();
+        callsGoEightDeepAtMost();
         Due.end();
     }
 
@@ -96,5 +102,57 @@ public final class FaceTest {
                 Due.is("a letter of ASCII at " + k, source.charAt(k), '?');
             }
         }
+    }
+
+    /** Rule 11, by names (methods of one name are taken as one): the method of the face is the first one of the eight, and none comes back to itself. */
+    private static void callsGoEightDeepAtMost() throws IOException {
+        Map<String, Set<String>> calls = callsByMethod();
+        Map<String, Integer> depths = new TreeMap<>();
+        for (String name : calls.keySet()) {
+            int deep = depthOf(name, calls, depths, 0);
+            Due.is(name + " goes " + deep + " deep, eight at most", deep <= 8 ? 1 : 0, 1);
+        }
+        Due.is("all methods of the face were looked at", calls.size() > FACE.size() ? 1 : 0, 1);
+    }
+
+    private static int depthOf(String name, Map<String, Set<String>> calls, Map<String, Integer> depths, int above) {
+        if (depths.containsKey(name)) {
+            return depths.get(name);
+        }
+        if (above > 50) {
+            return 99;
+        }
+        int deepest = 0;
+        for (String called : calls.get(name)) {
+            deepest = Math.max(deepest, depthOf(called, calls, depths, above + 1));
+        }
+        depths.put(name, deepest + 1);
+        return deepest + 1;
+    }
+
+    private static Map<String, Set<String>> callsByMethod() throws IOException {
+        List<String> lines = Files.readAllLines(Path.of("src/main/java/PushSaidDoor.java"));
+        Pattern start = Pattern.compile("( +)(?:(?:public|private|static) )*(?:int|void|boolean|char) (\\w+)\\(.*");
+        Pattern call = Pattern.compile("(\\w+)\\(");
+        Map<String, Set<String>> words = new TreeMap<>();
+        for (int k = 0; k < lines.size(); k++) {
+            Matcher m = start.matcher(lines.get(k));
+            if (!m.matches()) {
+                continue;
+            }
+            Set<String> called = words.computeIfAbsent(m.group(2), name -> new TreeSet<>());
+            int first = k;
+            for (k++; !lines.get(k).equals(m.group(1) + "}"); k++) {
+                Matcher c = call.matcher(lines.get(k));
+                while (c.find()) {
+                    called.add(c.group(1));
+                }
+            }
+            Due.is(m.group(2) + " has some sixty lines at most", k - first <= 60 ? 1 : 0, 1);
+        }
+        for (Set<String> called : words.values()) {
+            called.retainAll(words.keySet());
+        }
+        return words;
     }
 }
