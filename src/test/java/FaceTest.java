@@ -27,6 +27,7 @@ public final class FaceTest {
         classesInside();
         words();
         callsGoEightDeepAtMost();
+        noCallMakesAnObject();
         Due.end();
     }
 
@@ -74,7 +75,7 @@ public final class FaceTest {
 
     private static void classesInside() {
         Class<?>[] inside = PushSaidDoor.class.getDeclaredClasses();
-        Due.is("at most twelve classes inside", inside.length <= 12 ? 1 : 0, 1);
+        Due.is("at most twelve classes in the file", inside.length + 1 <= 12 ? 1 : 0, 1);
         for (Class<?> c : inside) {
             Due.is(c + " is static", c.getModifiers() & Modifier.STATIC, Modifier.STATIC);
             Due.is(c + " is for none outside", c.getModifiers() & (Modifier.PUBLIC | Modifier.PROTECTED), 0);
@@ -154,5 +155,21 @@ public final class FaceTest {
             called.retainAll(words.keySet());
         }
         return words;
+    }
+
+    /** All calls of a run live in one room: rows stand in fields from the start, and no call joins texts or makes a list. */
+    private static void noCallMakesAnObject() throws IOException {
+        Pattern ofField = Pattern.compile(" +(?:private )?final [\\w\\[\\]]+ \\w+ = new \\w+[\\[(].*;");
+        int made = 0;
+        for (String line : Files.readAllLines(Path.of("src/main/java/PushSaidDoor.java"))) {
+            if (line.contains("new ")) {
+                made++;
+                Due.is("'" + line.trim() + "' is a field's start", ofField.matcher(line).matches() ? 1 : 0, 1);
+            }
+            for (String word : new String[] {".clone()", "copyOf", "substring", "toCharArray", "StringBuilder", "List"}) {
+                Due.is("'" + word + "' stands in '" + line.trim() + "'", line.contains(word) ? 1 : 0, 0);
+            }
+        }
+        Due.is("fields that start with an object", made > 20 ? 1 : 0, 1);
     }
 }
