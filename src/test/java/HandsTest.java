@@ -11,6 +11,7 @@ public final class HandsTest {
         wrongWithTray();
         badNumbers();
         go();
+        goIsOfOnePerson();
         goNinetyNineTimes();
         putAndHang();
         undo();
@@ -177,6 +178,24 @@ public final class HandsTest {
         Due.is("times(2, 2, 0)", x.times(2, 2, 0), 1);
         Due.is("times(2, 2, 1)", x.times(2, 2, 1), 1);
         Due.is("only what was gone can be undone", x.count(5), 6);
+    }
+
+    /** Five persons go by turns: each go is one time more of him who goes, and nothing of the others. */
+    private static void goIsOfOnePerson() {
+        PushSaidDoor x = Due.house("r2;d0,1,2,1;p0,0;p0,0;p0,0;p0,1;p0,0;", 2);
+        int[] went = new int[5];
+        // 36 letters, fault, wipe and lay, and 21 calls a turn: within the 512 of an object
+        for (int turn = 0; turn < 20; turn++) {
+            int i = turn * 7 % 5;
+            Due.is("go of " + i, x.go(i, 0), 1 - went[i] % 2);
+            went[i]++;
+            for (int k = 0; k < 5; k++) {
+                Due.is("times of " + k + " from A", x.times(k, 0, 0), (went[k] + 1) / 2);
+                Due.is("times of " + k + " from B", x.times(k, 0, 1), went[k] / 2);
+                Due.is("room of " + k, x.person(k, 0), went[k] % 2);
+                Due.is("last of " + k, x.person(k, 2), went[k] == 0 ? NONE : 2);
+            }
+        }
     }
 
     private static void goNinetyNineTimes() {

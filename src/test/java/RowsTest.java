@@ -9,6 +9,7 @@ public final class RowsTest {
         wayByTheLastDoor();
         wayByEightDoors();
         wayFirstDoors();
+        wayByNoDoorButThese();
         wayBadAndNone();
         learnt();
         learntOfTwoLeaves();
@@ -119,6 +120,20 @@ public final class RowsTest {
         Due.is("nothing on both", x.way(0, 2, 0), 0);
         Due.is("the lowest first", x.way(0, 2, 1), 1);
         Due.is("the lowest first to 1", x.way(0, 1, 1), 1);
+    }
+
+    /** A smaller house behind a larger one: what the larger one's DOORS were does not lead on. */
+    private static void wayByNoDoorButThese() {
+        PushSaidDoor x = Due.house("d0,1,2,1;d0,1,2,1;d0,1,2,1;d0,1,2,1;d0,1,2,1;d0,1,2,1;d0,1,2,1;d0,1,2,1;p1,0;", 3);
+        Due.is("either way, one is never WRONG", x.way(0, 0, 0), 0);
+        Due.tell(x, "r3;d1,0,1,1;d0,2,0,1;w0,0,0,0,20,0;p1,0;");
+        Due.is("lay", x.lay(), 3);
+        // a pull by 1 of 2; it was the last, so that push 1, pull 21: a push is WANTED, 21 of 22
+        Due.is("by both DOORS", x.way(0, 2, 0), 500 + 954);
+        Due.is("by DOOR 0 first", x.way(0, 2, 1), 0);
+        x.go(0, 0);
+        Due.is("by DOOR 1 alone", x.way(0, 2, 0), 954);
+        Due.is("by DOOR 1 first", x.way(0, 2, 1), 1);
     }
 
     private static void wayBadAndNone() {
